@@ -641,7 +641,7 @@ public final class MixedKernel {
         }
 
         void put(int number) {
-            kept[total % kept.length] = number;
+            kept[Math.floorMod(total, kept.length)] = number;
             total++;
         }
 
@@ -650,7 +650,7 @@ public final class MixedKernel {
         }
 
         int back(int k) {
-            return kept[(total - 1 - k) % kept.length];
+            return kept[Math.floorMod(total - 1 - k, kept.length)];
         }
     }
 }
