@@ -243,6 +243,10 @@ final class Model {
         return find(order, id) != null;
     }
 
+    Known known(int id) {
+        return need(plan, id);
+    }
+
     int jobsOf(int id) {
         Known task = find(plan, id);
         return task == null ? 0 : task.jobs.size();

@@ -3,8 +3,11 @@ import java.util.TreeMap;
 
 /** Many runs of drawn calls, each answer against the model's; the draws are the same every time. */
 public final class ModelTest {
-    private static final int RUNS = 500;
-    private static final int CALLS = 512;
+    private static final int RUNS = 3000;
+    /** What a kernel answers behind so many calls is free. */
+    private static final int MOST_CALLS = 512;
+    /** So many calls everything() makes. */
+    private static final int ALL_QUESTIONS = 316;
     private static final int MOST_WRONG = 20;
 
     /** How often something worth looking at was met; a run of tests without it would prove little. */
@@ -16,18 +19,16 @@ public final class ModelTest {
     private final int run;
     /** Periods of a run are near each other: so the tasks of some runs come to lack room. */
     private final int scale;
+    private int calls;
 
     private ModelTest(int run) {
         this.run = run;
-        this.scale = new int[] {12, 30, 80, 300, 1000}[run % 5];
+        this.scale = new int[] {12, 30, 80, 300, 1000}[run / 2 % 5];
     }
 
     public static void main(String[] args) {
         for (int run = 0; run < RUNS && Check.wrongSoFar() < MOST_WRONG; run++) {
-            ModelTest test = new ModelTest(run);
-            for (int call = 0; call < CALLS && Check.wrongSoFar() < MOST_WRONG; call++) {
-                test.one(call);
-            }
+            new ModelTest(run).draws();
         }
         mustHaveMet();
         Check.end();
@@ -57,9 +58,21 @@ public final class ModelTest {
         MET.merge(what, 1, Integer::sum);
     }
 
-    private void one(int call) {
+    /** Every other run ends early, to be asked everything at its end. */
+    private void draws() {
+        int most = run % 2 == 0 ? MOST_CALLS : between(40, MOST_CALLS - ALL_QUESTIONS);
+        while (calls < most && Check.wrongSoFar() < MOST_WRONG) {
+            one();
+        }
+        if (run % 2 != 0) {
+            everything();
+        }
+        Check.same("calls above the limit", Math.max(calls - MOST_CALLS, 0), 0);
+    }
+
+    private void one() {
         int kind = draw(100);
-        if (kind < 12 || call < 6) {
+        if (kind < 12 || calls < 6) {
             add();
         } else if (kind < 17) {
             remove();
@@ -71,9 +84,6 @@ public final class ModelTest {
             assign();
         } else {
             ask(kind);
-        }
-        if (call % 16 == 15) {
-            everything();
         }
     }
 
@@ -180,7 +190,7 @@ public final class ModelTest {
         }
     }
 
-    /** Every question at once, so that no change goes unseen for long. */
+    /** Every question, so that no change goes unseen. */
     private void everything() {
         for (int id = 1; id <= 12; id++) {
             for (int what = 0; what <= 8; what++) {
@@ -237,6 +247,7 @@ public final class ModelTest {
     }
 
     private String same(String call, String got, String due) {
+        calls++;
         Check.same("run " + run + ", time " + model.count(0) + ": " + call, got, due);
         return due;
     }

@@ -583,17 +583,20 @@ public final class PromisesTest {
         witnessIs(x, times, tasks);
     }
 
+    /** A fresh kernel for each hundred: each is used for 512 calls at most. */
     private static void longWitness() {
-        MixedKernel x = new MixedKernel();
-        x.add(1, 1, 1, 1, 0);
-        Check.same("refused", x.add(2, 1000, 1000, 1, 0), 2);
-        Check.same("first", x.witness(0, 1), 1);
-        Check.same("second", x.witness(1, 1), 2);
-        for (int i = 2; i <= 1000; i++) {
-            Check.same("time of " + i, x.witness(i, 0), i - 1);
-            Check.same("task of " + i, x.witness(i, 1), 1);
+        for (int from = 2; from <= 1000; from += 100) {
+            MixedKernel x = new MixedKernel();
+            x.add(1, 1, 1, 1, 0);
+            Check.same("refused", x.add(2, 1000, 1000, 1, 0), 2);
+            Check.same("first", x.witness(0, 1), 1);
+            Check.same("second", x.witness(1, 1), 2);
+            for (int i = from; i < from + 100 && i <= 1000; i++) {
+                Check.same("time of " + i, x.witness(i, 0), i - 1);
+                Check.same("task of " + i, x.witness(i, 1), 1);
+            }
+            Check.missing("no more", () -> x.witness(1001, 0));
         }
-        Check.missing("no more", () -> x.witness(1001, 0));
     }
 
     private static void trace() {
